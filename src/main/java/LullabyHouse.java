@@ -765,8 +765,8 @@ public final class LullabyHouse {
 
         /** The first bar from there on that is no rest. */
         int nextFrom(int start) {
-            for (int b = Math.max(0, start); b < bars && b < BARS; b++) {
-                if (note[b] != 0) {
+            for (int b = start; b < bars; b++) {
+                if (sounds(b)) {
                     return b;
                 }
             }
@@ -774,7 +774,7 @@ public final class LullabyHouse {
         }
 
         boolean reaches(int s, int itsNote, boolean cold) {
-            return hasSinger(s) && itsNote >= low[s] && itsNote <= high[s] - (cold ? COLD_LOSS : 0);
+            return s >= 0 && s < singers && s < SINGERS && itsNote >= low[s] && itsNote <= high[s] - (cold ? COLD_LOSS : 0);
         }
 
         int everybody() {
@@ -830,7 +830,7 @@ public final class LullabyHouse {
 
         /** That floor and all above, as bits. */
         int from(int f) {
-            return (1 << floors) - 1 & -1 << Math.max(0, f);
+            return (1 << floors) - 1 & -1 << f;
         }
 
         int peopleOf(int bits) {
@@ -1448,31 +1448,11 @@ public final class LullabyHouse {
             return bound > 0 ? (seed >>> 16) % bound : 0;
         }
 
+        /** Does a deed, if it can be: whether it could. */
         private boolean does(int kind, int number) {
-            boolean can = may(kind, number);
-            if (can) {
-                perform(kind, number);
-                done++;
+            if (!may(kind, number)) {
+                return false;
             }
-            return can;
-        }
-
-        private boolean may(int kind, int number) {
-            switch (kind) {
-                case SING:
-                    return next != NONE && house.hasSinger(number) && number != sangAhead()
-                        && at(left, number) >= at(house.length, next);
-                case COLD:
-                case WELL:
-                    return house.hasSinger(number);
-                case SKIP:
-                    return next != NONE;
-                default:
-                    return night < MOST_NIGHT;
-            }
-        }
-
-        private void perform(int kind, int number) {
             switch (kind) {
                 case SING:
                     singNext(number);
@@ -1490,6 +1470,23 @@ public final class LullabyHouse {
                 default:
                     endNight();
                     break;
+            }
+            done++;
+            return true;
+        }
+
+        private boolean may(int kind, int number) {
+            switch (kind) {
+                case SING:
+                    return next != NONE && house.hasSinger(number) && number != sangAhead()
+                        && at(left, number) >= at(house.length, next);
+                case COLD:
+                case WELL:
+                    return house.hasSinger(number);
+                case SKIP:
+                    return next != NONE;
+                default:
+                    return night < MOST_NIGHT;
             }
         }
 
