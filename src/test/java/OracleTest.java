@@ -91,12 +91,25 @@ public final class OracleTest {
             walls.add(b);
             text.append(line("wall", b));
         }
-        x = new LullabyHouse();
         name = "seed " + seed + ": ";
-        Check.due(name + "text(0)", Teller.tell(x, 0, -1, text.toString()), 0);
-        Check.due(name + "text(1)", Teller.tell(x, 1, -1, nights()), 0);
-        Check.due(name + "text(2)", Teller.tell(x, 2, -1, mornings()), 0);
+        int at = seed % 2 == 0 ? NONE : 0;
+        x = at == NONE ? new LullabyHouse() : withOthers();
+        Check.due(name + "text(0)", Teller.tell(x, 0, at, text.toString()), 0);
+        Check.due(name + "text(1)", Teller.tell(x, 1, at, nights()), 0);
+        Check.due(name + "text(2)", Teller.tell(x, 2, at, mornings()), 0);
         rotas = rotas(bars, (1 << singers) - 1, 0, 99, NONE);
+    }
+
+    /** What was told before in the same place must not be seen any more. */
+    private static LullabyHouse withOthers() {
+        LullabyHouse old = Teller.with("floor 20 9;".repeat(6) + "bar 9 4 5 10;".repeat(8) + "singer 1 9 20;".repeat(5)
+            + "step 1;wall 0;wall 1;wall 2;wall 3;wall 4;wall 5;wall 6;wall 7;");
+        Teller.tell(old, 1, NONE, "cold 1;cold 2;sing 1;sing 2;sing 3;skip;night;sing 4;".repeat(5));
+        Teller.tell(old, 2, NONE, "dreamt 5;".repeat(8));
+        old.rota(0, 0);
+        old.state(0, 0, 3, 5);
+        old.tussle(0, 4, true);
+        return old;
     }
 
     private String nights() {

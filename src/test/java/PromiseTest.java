@@ -73,12 +73,17 @@ public final class PromiseTest {
         due("3 end(13)", x.end(13), 13);
         due("3 end(12)", x.end(12), 12);
         due("3 end(13) again", x.end(13), NONE);
+        due("3 end(12), all of it", x.end(12), 12);
         due("2 feed may go on", x.feed(0, 0, 0, 0, 0), 32);
         due("2 feed up to 592", feedOn(x), 592);
         due("2 no more than 600", x.feed(0, 0, 0, 0, 0), NONE);
         due("3 end(580)", x.end(580), 580);
         due("2 just 600", x.feed(0, 0, 0, 0, 0), 600);
         due("4 bytes 0", x.text(0, NONE), NONE);
+        due("3 end(0) of nothing", x.end(0), 0);
+        x.feed(1, 2, 3, 4, 5);
+        due("3 end(0)", x.end(0), 0);
+        due("3 nothing is left", x.end(1), NONE);
         due("5 fault(0)", x.fault(0), 1);
         due("5 fault(1)", x.fault(1), 10);
     }
@@ -141,6 +146,11 @@ public final class PromiseTest {
         faulty(0, "floor 4 002;", 1, 8);
         faulty(0, "floors 4 2;", 1, 0);
         faulty(0, "Floor 4 2;", 1, 0);
+        faulty(0, "floorz 4 2;", 1, 0);
+        faulty(0, "floor 4 2;a", 1, 10);
+        faulty(0, "`", 1, 0);
+        faulty(0, "floor 4 2:", 1, 9);
+        faulty(0, "floor 4 /;", 1, 8);
         faulty(0, "floor 4\t2;", 1, 7);
         faulty(0, ";", 1, 0);
         faulty(0, "3;", 1, 0);
@@ -389,6 +399,9 @@ public final class PromiseTest {
         due("16 no TUNES, first", apart.tunes(0, 10), NONE);
         due("16 no TUNES, SURE", apart.tunes(0, 20), NONE);
         due("16 a REST between is none", Teller.with("floor 1 1;bar 1 1 0 0;bar 0 1 0 0;bar 5 1 0 0;step 2;").tunes(0, 0), 0);
+        LullabyHouse nine = Teller.with("floor 1 1;bar 9 1 0 0;bar 1 1 0 0;step 0;wall 1;");
+        due("16 the first row, 9", nine.tunes(0, 10), 9);
+        due("16 SURE, 9", nine.tunes(0, 20), 9);
         due("16 nothing is WALLED", Teller.with("").tunes(0, 0), 1);
         LullabyHouse all = Teller.with("floor 1 1;" + "bar 1 1 0 0;".repeat(8) + "wall 0;wall 1;wall 2;wall 3;wall 4;"
             + "wall 5;wall 6;wall 7;");
@@ -483,6 +496,12 @@ public final class PromiseTest {
         due("21 no ROTA, CATCH", weak.spare(0, 20), NONE);
         due("22 no ROTA", weak.ease(0, NONE), NONE);
         due("22 no ROTA", weak.ease(0, 0), NONE);
+        LullabyHouse one = Teller.with("floor 1 1;" + "bar 5 4 0 0;bar 0 1 0 0;".repeat(4) + "singer 1 9 7;");
+        due("21 LOAN of 8", one.spare(0, 18), 6);
+        due("21 LOAN of 9, more than 11 in all", one.spare(0, 19), 8);
+        due("21 CURE, more than 11 in all", one.spare(0, 2), 9);
+        due("21 the most CURE there is", Teller.with("floor 1 1;" + "bar 5 4 0 0;bar 0 1 0 0;".repeat(4)
+            + "singer 1 9 1;").spare(0, 2), 15);
         due("21 no CURE", Teller.with("floor 1 1;bar 5 4 0 0;singer 6 9 1;").spare(0, 2), NONE);
         LullabyHouse most = Teller.with("floor 1 1;" + "bar 5 1 0 0;".repeat(8) + "singer 1 9 20;".repeat(5));
         due("21 the most ROTAS there are", most.spare(0, 1), 81920);
