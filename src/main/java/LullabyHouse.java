@@ -76,14 +76,16 @@ public final class LullabyHouse {
     }
 
     public int text(int sort, int at) {
+        int size = now.size;
+        // The tape is taken by every text(), also by one that can't be read.
+        now.size = 0;
         now.fault = 0;
         now.place = NONE;
         int number = now.numberFor(sort, at);
         if (number == NONE) {
             return MISSING;
         }
-        reader.read(now.tape, now.size, sort);
-        now.size = 0;
+        reader.read(now.tape, size, sort);
         now.fault = reader.fault;
         now.place = reader.place;
         if (reader.fault != 0) {

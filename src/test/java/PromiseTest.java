@@ -119,12 +119,29 @@ public final class PromiseTest {
         due("4 no place", x.text(0, NONE), -2);
         due("5 no fault then", x.fault(0), 0);
         due("5 no place of a fault then", x.fault(1), NONE);
-        due("4 nothing was read", x.end(10), 10);
-        due("4 the same tape", x.text(0, 1), 1);
-        due("4 the second house", x.house(1, 10), 7);
-        due("4 the first house", x.house(0, 10), 3);
+        due("4 the tape is taken all the same", x.end(1), NONE);
+        due("4 an empty tape", x.end(0), 0);
+        due("4 nothing was read, the first house", x.house(0, 10), 3);
+        due("4 nothing was read, the second house", x.house(1, 0), 0);
+        takenByEach();
         due("5 fault(2)", x.fault(2), NONE);
         due("5 fault(-1)", x.fault(-1), NONE);
+    }
+
+    private static void takenByEach() {
+        int[][] refused = {{0, 0}, {0, 2}, {0, -2}, {1, 0}, {2, 0}, {1, 5}, {3, NONE}, {-1, NONE}, {3, 0}};
+        for (int[] call : refused) {
+            LullabyHouse x = new LullabyHouse();
+            x.feed(0, 0, 0, 0, 0);
+            due("4 text(" + call[0] + ", " + call[1] + ")", x.text(call[0], call[1]), -2);
+            due("2 feed behind text(" + call[0] + ", " + call[1] + ")", x.feed(0, 0, 0, 0, 0), 20);
+        }
+        LullabyHouse x = new LullabyHouse();
+        x.feed(0, 0, 0, 0, 0);
+        x.image(1);
+        x.text(0, 0);
+        x.again(1);
+        due("37 the tape of the image stays", x.feed(0, 0, 0, 0, 0), 40);
     }
 
     private static void faulty(int sort, String text, int fault, int place) {
