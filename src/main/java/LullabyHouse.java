@@ -1750,28 +1750,30 @@ public final class LullabyHouse {
             return (house.walled >> b & 1) != 0;
         }
 
-        /** How many rows there are with what is fixed; rests are passed over, as if they were not there. */
+        /** How many rows there are with what is fixed; a rest parts its neighbours, so that step does not bind them. */
         int rows() {
-            boolean first = true;
-            for (int b = 0; b < house.bars; b++) {
-                if (isWalled(b) || house.sounds(b)) {
-                    goTo(b, first);
-                    first = false;
+            int many = 1;
+            boolean bound = false;
+            for (int b = 0; b < house.bars && b < BARS; b++) {
+                boolean notes = isWalled(b) || house.sounds(b);
+                if (notes) {
+                    many = goTo(b, bound, many);
                 }
+                bound = notes;
             }
-            int sum = 0;
-            for (int n = 1; n <= NOTES; n++) {
-                sum += ways[n];
-            }
-            return first ? 1 : sum;
+            return many;
         }
 
-        private void goTo(int b, boolean first) {
+        /** Of rows up to a bar: how many; a bar that is not bound may come behind all rows ahead of it. */
+        private int goTo(int b, boolean bound, int ahead) {
+            int sum = 0;
             for (int n = 1; n <= NOTES; n++) {
                 boolean can = at(fixed, b) == 0 || at(fixed, b) == n;
-                further[n] = !can ? 0 : first ? 1 : waysNear(n);
+                further[n] = !can ? 0 : bound ? waysNear(n) : ahead;
+                sum += further[n];
             }
             System.arraycopy(further, 0, ways, 0, NOTES + 1);
+            return sum;
         }
 
         private int waysNear(int note) {

@@ -521,15 +521,13 @@ public final class OracleTest {
     }
 
     private boolean isTune(List<Integer> walled, int[] notes) {
-        List<Integer> song = new ArrayList<>();
+        int[] song = new int[bars];
         for (int b = 0; b < bars; b++) {
-            int note = walled.contains(b) ? notes[walled.indexOf(b)] : bar[b][0];
-            if (note != 0) {
-                song.add(note);
-            }
+            song[b] = walled.contains(b) ? notes[walled.indexOf(b)] : bar[b][0];
         }
-        for (int i = 1; i < song.size(); i++) {
-            if (Math.abs(song.get(i) - song.get(i - 1)) > step) {
+        for (int b = 1; b < bars; b++) {
+            boolean neighbours = song[b] != 0 && song[b - 1] != 0;
+            if (neighbours && Math.abs(song[b] - song[b - 1]) > step) {
                 return false;
             }
         }

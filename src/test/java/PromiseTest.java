@@ -415,7 +415,6 @@ public final class PromiseTest {
         due("16 no TUNES", apart.tunes(0, 0), 0);
         due("16 no TUNES, first", apart.tunes(0, 10), NONE);
         due("16 no TUNES, SURE", apart.tunes(0, 20), NONE);
-        due("16 a REST between is none", Teller.with("floor 1 1;bar 1 1 0 0;bar 0 1 0 0;bar 5 1 0 0;step 2;").tunes(0, 0), 0);
         LullabyHouse nine = Teller.with("floor 1 1;bar 9 1 0 0;bar 1 1 0 0;step 0;wall 1;");
         due("16 the first row, 9", nine.tunes(0, 10), 9);
         due("16 SURE, 9", nine.tunes(0, 20), 9);
@@ -423,6 +422,39 @@ public final class PromiseTest {
         LullabyHouse all = Teller.with("floor 1 1;" + "bar 1 1 0 0;".repeat(8) + "wall 0;wall 1;wall 2;wall 3;wall 4;"
             + "wall 5;wall 6;wall 7;");
         due("16 all rows there are", all.tunes(0, 0), 43046721);
+        tunesWithRests();
+    }
+
+    private static void tunesWithRests() {
+        String rest = "bar 0 1 0 0;";
+        String nine = "bar 9 1 0 0;";
+        String one = "bar 1 1 0 0;";
+        due("16 told NOTES, a REST between", Teller.with("floor 1 1;" + one + rest + nine + "step 2;").tunes(0, 0), 1);
+        LullabyHouse behind = Teller.with("floor 1 1;" + nine + rest + nine + "wall 2;step 0;");
+        due("16 behind a REST", behind.tunes(0, 0), 9);
+        due("16 behind a REST, first", behind.tunes(0, 10), 1);
+        due("16 behind a REST, SURE", behind.tunes(0, 20), NONE);
+        LullabyHouse ahead = Teller.with("floor 1 1;" + nine + rest + nine + "wall 0;step 0;");
+        due("16 ahead of a REST", ahead.tunes(0, 0), 9);
+        due("16 ahead of a REST, first", ahead.tunes(0, 10), 1);
+        LullabyHouse ends = Teller.with("floor 1 1;" + rest + nine + rest + rest + nine + rest + "wall 1;wall 4;step 0;");
+        due("16 two parted by RESTS", ends.tunes(0, 0), 81);
+        LullabyHouse parts = Teller.with("floor 1 1;" + nine + nine + rest + one + one + one + "wall 1;wall 3;wall 4;step 1;");
+        due("16 parts, how many", parts.tunes(0, 0), 2 * 5);
+        due("16 parts, first", parts.tunes(0, 10), 8);
+        due("16 parts, first", parts.tunes(0, 11), 1);
+        due("16 parts, first", parts.tunes(0, 12), 1);
+        LullabyHouse sure = Teller.with("floor 1 1;" + nine + nine + rest + one + one + "wall 1;wall 4;step 0;");
+        due("16 parts, SURE", sure.tunes(0, 20), 9);
+        due("16 parts, SURE", sure.tunes(0, 21), 1);
+        LullabyHouse torn = Teller.with("floor 1 1;" + nine + one + rest + one + one + "wall 4;step 2;");
+        due("16 too far apart ahead of a REST", torn.tunes(0, 0), 0);
+        due("16 too far apart ahead of a REST, first", torn.tunes(0, 10), NONE);
+        due("16 too far apart ahead of a REST, SURE", torn.tunes(0, 20), NONE);
+        LullabyHouse last = Teller.with("floor 1 1;" + one + one + rest + nine + one + "wall 0;step 2;");
+        due("16 too far apart behind a REST", last.tunes(0, 0), 0);
+        due("16 RESTS alone", Teller.with("floor 1 1;" + rest + rest).tunes(0, 0), 1);
+        due("16 a walled REST parts nothing", Teller.with("floor 1 1;" + one + rest + nine + "wall 1;step 3;").tunes(0, 0), 0);
     }
 
     private static void mornings() {
