@@ -48,6 +48,8 @@ public final class RefusedTest {
         floors();
         singers();
         images();
+        imagesHaveAll();
+        imagesOfNothingAndOfAll();
         lastCall();
         Check.end();
     }
@@ -459,6 +461,75 @@ public final class RefusedTest {
                 due("37 the HOUSE then", x.house(0, 0), other < k ? 0 : 2);
             }
         }
+    }
+
+    private static void tellAll(LullabyHouse x, int rent) {
+        for (int at = 0; at < 2; at++) {
+            Teller.tell(x, 0, at, "floor " + (rent + at) + " 1;");
+            Teller.tell(x, 1, at, "cold " + rent + ";" + "skip;".repeat(rent + at));
+            Teller.tell(x, 2, at, "calm " + rent + ";" + "calm 0;".repeat(rent + at));
+        }
+        Teller.tell(x, 0, 0, " ".repeat(rent) + "wrong");
+        Teller.tape(x, "floor " + (rent + 10) + " 1;");
+    }
+
+    private static void isAll(String name, LullabyHouse x, int rent) {
+        for (int at = 0; at < 2; at++) {
+            due(name + "a HOUSE", x.house(at, 10), rent + at);
+            due(name + "DEEDS", x.deed(at, NONE, 0), 1 + rent + at);
+            due(name + "a DEED", x.deed(at, 0, 1), rent);
+            due(name + "FACTS", x.fact(at, NONE, 0), 1 + rent + at);
+            due(name + "a FACT", x.fact(at, 0, 1), rent);
+        }
+        due(name + "the FAULT", x.fault(0), 1);
+        due(name + "its place", x.fault(1), rent);
+        due(name + "how long the tape is", x.end(12), NONE);
+        due(name + "the tape", x.text(0, 1), 1);
+        due(name + "what was on it", x.house(1, 10), rent + 10);
+    }
+
+    // Promise 36: "all that is told (the tape, the FAULT, too), as it is now", promise 37: "(other images stay)"
+    private static void imagesHaveAll() {
+        LullabyHouse x = new LullabyHouse();
+        for (int k = 0; k < 6; k++) {
+            x.text(k % 3, NONE);
+        }
+        for (int k = 0; k < 3; k++) {
+            tellAll(x, k + 1);
+            Check.due("36 image(" + k + ")", x.image(k), true);
+        }
+        for (int k : new int[] {0, 2, 1, 1, 0}) {
+            tellAll(x, 4);
+            Check.due("37 again(" + k + ")", x.again(k), true);
+            isAll("37 as image " + k + ", ", x, k + 1);
+        }
+        tellAll(x, 4);
+        Check.due("36 image 1 anew", x.image(1), true);
+        Check.due("37 again(0)", x.again(0), true);
+        Check.due("37 again(1)", x.again(1), true);
+        isAll("37 as image 1 anew, ", x, 4);
+        Check.due("37 again(2)", x.again(2), true);
+        isAll("37 image 2 stayed, ", x, 3);
+    }
+
+    private static void imagesOfNothingAndOfAll() {
+        LullabyHouse x = new LullabyHouse();
+        Check.due("36 an image of nothing", x.image(2), true);
+        Teller.tape(x, " ".repeat(590) + "floor 7 1;");
+        Check.due("36 an image of a full tape", x.image(0), true);
+        tellAll(x, 1);
+        x.text(0, NONE);
+        Check.due("37 nothing again", x.again(2), true);
+        for (int sort = 0; sort < 3; sort++) {
+            due("37 none of sort " + sort, x.count(sort), 0);
+        }
+        due("37 no FAULT", x.fault(0), 0);
+        due("37 an empty tape", x.end(1), NONE);
+        Check.due("37 a full tape again", x.again(0), true);
+        due("37 no more comes", x.feed(0, 0, 0, 0, 0), NONE);
+        due("37 all of it", x.end(600), 600);
+        due("37 is a text", x.text(0, NONE), 0);
+        due("37 of this RENT", x.house(0, 10), 7);
     }
 
     // "An object is used for at most 512 calls after it has been made"

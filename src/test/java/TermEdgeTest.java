@@ -31,6 +31,7 @@ public final class TermEdgeTest {
         walls();
         fits();
         draws();
+        drawsWithBars();
         drawsWithSingers();
         loans();
         ease();
@@ -173,6 +174,12 @@ public final class TermEdgeTest {
         LullabyHouse x = night(FLOORS + "bar 0 1 0 0;bar 1 1 5 0;bar 1 1 4 0;bar 0 1 0 0;singer 1 9 9;", "sing 0;night;");
         due("9 a REST's FLOOR does not wake", x.state(0, 0, 2, 3), 18);
         due("9 what is sung does not wake", x.state(0, 0, 2, 4), 80);
+        LullabyHouse y = night(FLOORS + "bar 9 1 4 0;bar 9 1 5 0;bar 9 1 2 0;bar 9 1 3 0;" + "singer 1 8 9;".repeat(2),
+            "skip;skip;night;sing 0;sing 1;night;");
+        due("9 AWAKE by both that are skipped", y.state(0, 0, 2, 2), 48);
+        due("9 WOKEN by all that were left", y.state(0, 0, 3, 3), 36);
+        due("9 DREAMT by both that are sung", y.state(0, 0, 5, 8), 48);
+        due("9 WOKEN by all that were left", y.state(0, 0, 6, 3), 72);
     }
 
     // As much as may be: 40 nights of 54 PEOPLE, or of RENTS of 120
@@ -331,6 +338,12 @@ public final class TermEdgeTest {
         LullabyHouse most = Teller.with(FLOOR + bars("55555555") + SINGERS);
         due("21 as many ROTAS as may be", most.spare(0, 1), 81920);
         due("10 the first", most.rota(0, 7), 1);
+        for (int breath = 1; breath <= 20; breath++) {
+            LullabyHouse three = Teller.with(FLOOR + bars("505050") + "singer 5 5 " + breath + ";singer 5 5 20;");
+            int[] counts = {4, 7, 8};
+            due("21 ROTAS, a REST between, BREATH " + breath, three.spare(0, 1), counts[Math.min(breath, 3) - 1]);
+        }
+        due("21 ROTAS, RESTS around", Teller.with(FLOOR + bars("0550") + "singer 5 5 1;".repeat(5)).spare(0, 1), 20);
         due("10 the fifth SINGER", Teller.with(FLOOR + bars("9") + "singer 1 8 9;".repeat(4) + "singer 9 9 1;").rota(0, 0), 4);
     }
 
@@ -349,6 +362,17 @@ public final class TermEdgeTest {
             due("12 FAR", Teller.with(house).far(0, false), far);
             due("12 MUTE", Teller.with(house).far(0, true), 255 & -1 << far);
         }
+        for (int breath = 1; breath <= 20; breath++) {
+            LullabyHouse x = Teller.with(FLOOR + "bar 5 4 0 0;" + REST + "bar 5 3 0 0;singer 5 5 4;singer 5 5 " + breath + ";");
+            due("11 FEW, BREATH " + breath, x.few(0, false), breath >= 7 ? 1 : breath >= 3 ? 2 : NONE);
+            due("11 who, BREATH " + breath, x.few(0, true), breath >= 7 ? 2 : breath >= 3 ? 3 : NONE);
+            due("21 SPARE, BREATH " + breath, x.spare(0, 0), breath >= 7 ? 1 : 0);
+            due("22 EASE, BREATH " + breath, x.ease(0, NONE), breath >= 3 ? 4 : NONE);
+            due("22 EASE, who, BREATH " + breath, x.ease(0, 2), breath >= 3 ? 1 : NONE);
+        }
+        LullabyHouse last = Teller.with(FLOOR + bars("102") + "singer 1 1 9;singer 2 2 9;singer 1 2 9;");
+        due("11 the fewest, not the first", last.few(0, false), 1);
+        due("11 the fewest, not the first, who", last.few(0, true), 4);
         LullabyHouse none = Teller.with(FLOOR + bars("11111111"));
         due("12 FAR without SINGERS", none.far(0, false), 0);
         due("12 MUTE without SINGERS", none.far(0, true), 255);
@@ -410,6 +434,15 @@ public final class TermEdgeTest {
             due("15 RENT " + rent + ", n 2, first", x.tussle(0, 2, true), rent <= 4 ? 0 : 8);
             due("15 RENT " + rent + ", n 3", x.tussle(0, 3, false), 4);
         }
+        LullabyHouse twoBars = Teller.with("floor 0 1;bar 1 4 0 0;bar 1 1 0 0;");
+        due("15 each is skipped once, n 3", twoBars.tussle(0, 3, false), 5);
+        due("15 each is skipped once, n 4", twoBars.tussle(0, 4, false), 5);
+        LullabyHouse twoFloors = Teller.with("floor 20 1;floor 0 1;bar 1 4 1 0;bar 1 4 0 0;");
+        due("15 AWAKE by what is skipped alone", twoFloors.tussle(0, 2, false), 4);
+        due("15 AWAKE by what is skipped alone, first", twoFloors.tussle(0, 2, true), 0);
+        LullabyHouse twoRents = Teller.with("floor 1 1;floor 3 1;bar 1 4 0 0;bar 1 4 0 0;");
+        due("15 each is let off once", twoRents.tussle(0, 4, false), 4);
+        due("15 each is let off once, first", twoRents.tussle(0, 4, true), 0);
         LullabyHouse above = Teller.with("floor 20 1;floor 3 1;bar 1 4 1 0;");
         due("15 only FLOORS that are AWAKE", above.tussle(0, 2, false), 1);
         due("15 a FLOOR pays no more but once", above.tussle(0, 4, false), 1);
@@ -516,6 +549,24 @@ public final class TermEdgeTest {
         }
     }
 
+    // Term 4: "6: skip; 7: night; each, if it may"
+    private static void drawsWithBars() {
+        for (int seed = -20; seed <= 20; seed++) {
+            LullabyHouse x = Teller.with("floor 3 2;floor 1 1;bar 1 1 1 0;bar 1 1 0 0;");
+            long now = seed & 0xffffffffL;
+            int next = 0;
+            int woken = 0;
+            for (int n = 1; n <= 10; n++) {
+                int kind = (int) ((now = following(now)) >> 16) % 8;
+                woken += kind == 7 ? 3 : 0;
+                next = kind == 7 ? 0 : kind == 6 ? Math.min(2, next + 1) : next;
+                due("19 the next BAR by " + seed + ", " + n, x.drawn(0, seed, n, 1), next == 2 ? NONE : next);
+                due("19 AWAKE by " + seed + ", " + n, x.drawn(0, seed, n, 2), next == 0 ? 0 : next == 1 ? 2 : 3);
+                due("19 WOKEN by " + seed + ", " + n, x.drawn(0, seed, n, 3), woken);
+            }
+        }
+    }
+
     // Term 4: "5: a number below 2: 0 cold, 1 well, then a SINGER, below SINGERS"
     private static void drawsWithSingers() {
         for (int singers = 1; singers <= 5; singers++) {
@@ -569,6 +620,10 @@ public final class TermEdgeTest {
         for (int k = 0; k < row.length; k++) {
             due("22 ease(0, " + k + ")", one.ease(0, k), row[k]);
         }
+        LullabyHouse bound = Teller.with(FLOOR + "bar 5 4 0 0;".repeat(4) + "singer 5 5 20;" + "singer 5 5 4;".repeat(2));
+        due("22 none longer than his BREATH", bound.ease(0, NONE), 8);
+        LullabyHouse short4 = Teller.with(FLOOR + "bar 5 4 0 0;".repeat(4) + "singer 5 5 20;" + "singer 5 5 4;singer 5 5 3;");
+        due("22 one BREATH less", short4.ease(0, NONE), NONE);
         LullabyHouse least = Teller.with(FLOOR + bars("5") + "singer 5 5 1;");
         due("22 1 is enough", least.ease(0, NONE), 1);
     }
@@ -585,6 +640,8 @@ public final class TermEdgeTest {
         due("23 54 PEOPLE", x.roof(0, 1), 54);
         due("23 RENTS of 120", x.roof(0, 2), 120);
         due("23 RENTS of 0", Teller.with("floor 0 1;").roof(0, 2), 0);
+        due("23 the first is QUIETEST", Teller.with("floor 0 1;floor 0 1;bar 1 1 1 0;bar 1 1 0 0;").roof(0, 0), 0);
+        due("23 of all alike the first", Teller.with("floor 0 1;" + "bar 1 1 0 0;".repeat(8)).roof(0, 0), 0);
         due("23 the last is QUIETEST", Teller.with("floor 0 1;floor 0 1;" + "bar 1 1 0 0;".repeat(7) + "bar 1 1 1 0;").roof(0, 0), 7);
         due("23 1 of PEOPLE", Teller.with("floor 0 1;bar 1 1 0 0;").roof(0, 10), 1);
     }

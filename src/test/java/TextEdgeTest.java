@@ -33,6 +33,8 @@ public final class TextEdgeTest {
         fullHouse();
         fullNights();
         fullMornings();
+        linesTellTheirOwn();
+        nothingOfTheTextAhead();
         oneTooMany();
         noLimitOfStepsAndWalls();
         anyByteAlone();
@@ -264,6 +266,41 @@ public final class TextEdgeTest {
         }
         due("17 fact(0, 8, 0)", x.fact(0, 8, 0), -2);
         due("17 fact(0, 8, 1)", x.fact(0, 8, 1), -2);
+    }
+
+    /** How many there are of each, STEP and WALLED ones, behind a text on the same object. */
+    private static void counts(LullabyHouse x, String text, int... want) {
+        due("4 '" + text + "'", Teller.tell(x, 0, x.count(0) == 0 ? NONE : 0, text), 0);
+        for (int what = 0; what < want.length; what++) {
+            due("6 '" + text + "', what " + what, x.house(0, what), want[what]);
+        }
+    }
+
+    private static void linesTellTheirOwn() {
+        String bar = "floor 1 1;bar 5 2 0 7;";
+        LullabyHouse x = new LullabyHouse();
+        counts(x, "", 0, 0, 0, 9, 0);
+        counts(x, "step 3;floor 2 2;", 1, 0, 0, 3, 0);
+        counts(x, "step 3;" + bar, 1, 1, 0, 3, 0);
+        counts(x, "step 3;singer 1 2 4;", 0, 0, 1, 3, 0);
+        counts(x, bar + "step 3;wall 0;", 1, 1, 0, 3, 1);
+        counts(x, bar + "wall 0;step 3;", 1, 1, 0, 3, 1);
+    }
+
+    private static void nothingOfTheTextAhead() {
+        LullabyHouse x = new LullabyHouse();
+        counts(x, FLOORS + BARS + SINGERS + WALLS + "step 0;", 6, 8, 5, 0, 255);
+        counts(x, "floor 2 2;", 1, 0, 0, 9, 0);
+        due("6 no more of the FLOORS", x.house(0, 11), NONE);
+        counts(x, "", 0, 0, 0, 9, 0);
+        due("4 all DEEDS", Teller.tell(x, 1, NONE, "skip;".repeat(40)), 0);
+        due("4 one in their place", Teller.tell(x, 1, 0, "night;"), 0);
+        due("7 one DEED", x.deed(0, NONE, 0), 1);
+        due("4 all FACTS", Teller.tell(x, 2, NONE, "calm 1;".repeat(8)), 0);
+        due("4 none in their place", Teller.tell(x, 2, 0, ""), 0);
+        due("17 no FACTS", x.fact(0, NONE, 0), 0);
+        Teller.tell(x, 0, 0, "step 3;wall 0;");
+        counts(x, "floor 1 1;", 1, 0, 0, 9, 0);
     }
 
     // Term 1: "3 a 7th FLOOR, a 9th BAR, a 6th SINGER, a 41st DEED, a 9th FACT, at its first token."
