@@ -100,6 +100,8 @@ public final class RefusedTest {
     // Promise 1: "No HOUSES, NIGHTS, MORNINGS; no images."
     private static void newObject() {
         LullabyHouse x = new LullabyHouse();
+        due("1 no FAULT yet", x.fault(0), 0);
+        due("1 no place yet", x.fault(1), NONE);
         for (int sort = 0; sort < 3; sort++) {
             due("1 count(" + sort + ")", x.count(sort), 0);
             due("1 text(" + sort + ", 0)", x.text(sort, 0), -2);

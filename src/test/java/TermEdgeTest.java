@@ -180,6 +180,8 @@ public final class TermEdgeTest {
         due("9 WOKEN by all that were left", y.state(0, 0, 3, 3), 36);
         due("9 DREAMT by both that are sung", y.state(0, 0, 5, 8), 48);
         due("9 WOKEN by all that were left", y.state(0, 0, 6, 3), 72);
+        due("9 none DREAMT in the next night", y.state(0, 0, 6, 8), 0);
+        due("9 two DREAMT in all", y.state(0, 0, 6, 5), 2);
     }
 
     // As much as may be: 40 nights of 54 PEOPLE, or of RENTS of 120
@@ -328,8 +330,10 @@ public final class TermEdgeTest {
         for (int k = 0; k < 8; k++) {
             due("10 rota(0, " + k + ")", x.rota(0, k), k % 2);
         }
-        due("20 left", x.sung(0, 0, true), 0);
-        due("20 SUNG", x.sung(0, 1, false), 4);
+        for (int s = 0; s < 2; s++) {
+            due("20 left of " + s, x.sung(0, s, true), 0);
+            due("20 SUNG of " + s, x.sung(0, s, false), 4);
+        }
         due("21 ROTAS", x.spare(0, 1), 2);
         due("10 one BREATH less", Teller.with(FLOOR + "bar 5 4 0 0;".repeat(8) + "singer 5 5 16;singer 5 5 15;").rota(0, 0), NONE);
         due("10 one SINGER less", Teller.with(FLOOR + "bar 5 4 0 0;".repeat(2) + "singer 5 5 16;").rota(0, 0), NONE);
@@ -443,6 +447,12 @@ public final class TermEdgeTest {
         LullabyHouse twoRents = Teller.with("floor 1 1;floor 3 1;bar 1 4 0 0;bar 1 4 0 0;");
         due("15 each is let off once", twoRents.tussle(0, 4, false), 4);
         due("15 each is let off once, first", twoRents.tussle(0, 4, true), 0);
+        LullabyHouse ends = Teller.with("floor 3 1;bar 1 4 0 0;bar 1 4 0 0;");
+        due("15 the house is last, n 2", ends.tussle(0, 2, false), 1);
+        due("15 the landlord is last, n 3", ends.tussle(0, 3, false), 5);
+        due("15 nobody, first, behind others", ends.tussle(0, 0, true), NONE);
+        LullabyHouse stays = Teller.with("floor 5 1;floor 0 1;bar 1 4 0 0;bar 1 4 1 0;");
+        due("15 what was AWAKE stays so, n 4", stays.tussle(0, 4, false), 4);
         LullabyHouse above = Teller.with("floor 20 1;floor 3 1;bar 1 4 1 0;");
         due("15 only FLOORS that are AWAKE", above.tussle(0, 2, false), 1);
         due("15 a FLOOR pays no more but once", above.tussle(0, 4, false), 1);
@@ -521,6 +531,10 @@ public final class TermEdgeTest {
         due("18 8 FACTS, the last counts", morning(house, eight + "dreamt 1;").fits(0, 0, 0), 0);
         due("18 ASK, a later FLOOR", morning(house, "calm 0;calm 1;calm 2;").fits(0, 0, 2), 3);
         due("18 all of it CALM, ASK", morning(house, eight).fits(0, 0, 2), 0);
+        LullabyHouse three = morning(FLOORS + "bar 9 1 0 0;bar 9 1 1 0;bar 0 1 0 0;bar 9 1 1 0;singer 9 9 1;singer 9 9 2;", "");
+        due("18 ASK, nobody counts, too", three.fits(0, 0, 2), 0);
+        LullabyHouse halves = morning(FLOORS + "bar 5 1 0 0;bar 5 1 1 0;bar 5 1 1 0;" + "singer 5 5 1;".repeat(3), "");
+        due("18 ASK, two by two", halves.fits(0, 0, 2), 1);
         due("18 no FLOORS, ASK", morning("singer 1 1 1;", "").fits(0, 0, 2), NONE);
         due("18 no FLOORS, how many", morning("singer 1 1 1;", "").fits(0, 0, 0), 2);
     }
@@ -603,6 +617,8 @@ public final class TermEdgeTest {
             due("21 what 9", x.spare(0, 9), -2);
             due("21 what 20 is CATCH", x.spare(0, 20), breath >= 16 ? 1 : NONE);
         }
+        String dreamers = FLOORS + "bar 9 1 5 0;bar 0 1 4 0;bar 9 1 3 0;bar 0 1 0 0;bar 9 1 5 0;bar 0 1 0 0;bar 7 1 0 0;singer 1 9 4;";
+        due("21 CATCH, each FLOOR once", Teller.with(dreamers).spare(0, 20), 18);
         due("21 no CURE, nobody REACHES", Teller.with(FLOOR + "bar 5 1 0 0;singer 6 9 20;").spare(0, 2), NONE);
         due("21 no CURE, two one behind the other", Teller.with(FLOOR + bars("55") + "singer 5 5 20;").spare(0, 2), NONE);
         due("21 no CURE without SINGERS", Teller.with(FLOOR + bars("5")).spare(0, 2), NONE);
@@ -701,6 +717,10 @@ public final class TermEdgeTest {
         echo("00", 1, 0);
         LullabyHouse x = Teller.with(FLOOR + "bar 1 1 0 0;bar 1 2 0 0;");
         due("23 ECHO, by LENGTH, too", x.roof(0, 5), 0);
+        LullabyHouse end = Teller.with(FLOOR + "bar 1 1 0 0;bar 1 2 0 0;bar 1 1 0 0;bar 1 3 0 0;");
+        due("23 ECHO, by each LENGTH", end.roof(0, 5), 1);
+        LullabyHouse both = Teller.with(FLOOR + "bar 1 1 0 0;bar 1 2 0 0;bar 1 1 0 0;bar 1 2 0 0;");
+        due("23 ECHO, each LENGTH the same", both.roof(0, 5), 2);
         LullabyHouse y = Teller.with(FLOORS + "bar 1 1 0 0;bar 1 1 5 9;");
         due("23 ECHO, not by FLOOR or RISK", y.roof(0, 5), 1);
     }
@@ -768,6 +788,9 @@ public final class TermEdgeTest {
             singers.append("singer " + (many + 1) + " " + (many + 1) + " 1;");
         }
         due("28 of several the least", Teller.with(FLOOR + bars("5") + SINGERS).choir(0, true), 1);
+        LullabyHouse last = Teller.with(FLOOR + bars("19") + "singer 1 8 1;singer 2 9 1;singer 1 9 1;");
+        due("28 the fewest, not the first", last.choir(0, false), 1);
+        due("28 the fewest, not the first, who", last.choir(0, true), 4);
         due("28 a breath does not count", Teller.with(FLOOR + "bar 5 4 0 0;bar 5 4 0 0;singer 5 5 1;").choir(0, false), 1);
     }
 
