@@ -5,7 +5,6 @@ import java.lang.reflect.Method;
 import java.lang.reflect.Modifier;
 import java.nio.file.Files;
 import java.nio.file.Path;
-import java.util.Arrays;
 import java.util.Set;
 import java.util.TreeSet;
 import java.util.regex.Matcher;
@@ -13,16 +12,6 @@ import java.util.regex.Pattern;
 
 /** The face is just the document's, and the source keeps to what of ../shared/LANGUAGE.md can be seen by patterns. */
 public final class LanguageTest {
-    private static final String[] FACE = {
-        "int feed(int int int int int)", "int end(int)", "int text(int int)", "int fault(int)", "int house(int int)",
-        "int deed(int int int)", "int stop(int int)", "int state(int int int int)", "int rota(int int)",
-        "int few(int boolean)", "int far(int boolean)", "long wakes(int boolean)", "int change(int)",
-        "int tussle(int int boolean)", "int tunes(int int)", "int fact(int int int)", "int fits(int int int)",
-        "int drawn(int int int int)", "int sung(int int boolean)", "int spare(int int)", "int ease(int int)",
-        "int roof(int int)", "long sleep(int int boolean)", "long census(int int boolean)", "int move(int int int)",
-        "int range(int int)", "int choir(int boolean)", "int after(int int int)", "long odds(int int int boolean)",
-        "int hire(int)", "int shift(int int)", "int tuned(int)", "int landing(int boolean)", "int count(int)",
-        "boolean image(int)", "boolean again(int)"};
     private static final String[] RULED_OUT = {
         "throw", "try", "catch", "finally", "synchronized", "assert", "goto", "Object", "Exact", "Random", "System\\.(?!arraycopy)",
         "Thread", "Scanner", "HashMap", "->", "::", "double", "float", "protected", "package"};
@@ -30,15 +19,27 @@ public final class LanguageTest {
     private LanguageTest() {
     }
 
-    public static void main(String[] args) throws IOException {
-        face();
+    public static void main(String[] args) throws IOException, ReflectiveOperationException {
+        face(Files.readString(Path.of("../shared/DOC.md")));
+        constants();
         innerClasses();
         source(Files.readString(Path.of("src/main/java/LullabyHouse.java")));
         Check.end();
     }
 
-    private static void face() {
-        Set<String> want = new TreeSet<>(Arrays.asList(FACE));
+    /** The methods that the document's face tells, in the form of told(). */
+    private static Set<String> faceOf(String document) {
+        Set<String> face = new TreeSet<>();
+        Matcher row = Pattern.compile("(?m)^    public (int|long|boolean) (\\w+)\\(([\\w, ]*)\\);$").matcher(document);
+        while (row.find()) {
+            face.add(row.group(1) + " " + row.group(2) + "(" + row.group(3).replaceAll(" \\w+(,|$)", "$1").replace(",", "") + ")");
+        }
+        return face;
+    }
+
+    private static void face(String document) {
+        Set<String> want = faceOf(document);
+        Check.due("the document's face was read", want.size(), 36);
         Set<String> got = new TreeSet<>();
         Set<String> names = new TreeSet<>();
         for (Method method : LullabyHouse.class.getDeclaredMethods()) {
@@ -59,8 +60,34 @@ public final class LanguageTest {
                 mustBePrivate(field);
             }
         }
+        for (Class<?> one : LullabyHouse.class.getDeclaredClasses()) {
+            for (Method method : one.getDeclaredMethods()) {
+                Check.due("rule 1, a " + method.getName() + " in " + one, names.contains(method.getName()), false);
+            }
+        }
         Check.due("constructors", LullabyHouse.class.getConstructors().length, 1);
         Check.due("final", Modifier.isFinal(LullabyHouse.class.getModifiers()), true);
+    }
+
+    // "The constants: `NONE = -1`"; rule 5: static fields are final, arrays of them hold numbers
+    private static void constants() throws ReflectiveOperationException {
+        Field none = LullabyHouse.class.getField("NONE");
+        Check.due("NONE is an int", none.getType() == int.class, true);
+        Check.due("NONE", none.getInt(null), -1);
+        mustHaveNoState(LullabyHouse.class);
+        for (Class<?> one : LullabyHouse.class.getDeclaredClasses()) {
+            mustHaveNoState(one);
+        }
+    }
+
+    private static void mustHaveNoState(Class<?> one) {
+        Set<Class<?>> types = Set.of(int.class, long.class, boolean.class, char.class, String.class, int[].class);
+        for (Field field : one.getDeclaredFields()) {
+            if (Modifier.isStatic(field.getModifiers()) && !field.isSynthetic()) {
+                Check.due(field + " is final", Modifier.isFinal(field.getModifiers()), true);
+                Check.due(field + " is a constant", types.contains(field.getType()), true);
+            }
+        }
     }
 
     private static String told(Method method) {
@@ -98,6 +125,8 @@ public final class LanguageTest {
             Matcher found = Pattern.compile(letters ? "\\b" + word + "\\b" : word).matcher(code);
             Check.due("the source has '" + word + "'", found.find(), false);
         }
+        Check.due("signs are 1 to 127", text.chars().allMatch(sign -> sign < 128), true);
+        made(code);
         Check.due("one import", code.split("\nimport ", -1).length - 1 + (code.startsWith("import ") ? 1 : 0), 1);
         int length = 0;
         for (String line : code.split("\n")) {
@@ -107,6 +136,15 @@ public final class LanguageTest {
                 Check.due("a method of " + length + " lines before " + line, length <= 60, true);
                 length = 0;
             }
+        }
+    }
+
+    /** What is made is made with the object: as a field's first value, or in the one constructor that has lines. */
+    private static void made(String code) {
+        for (String line : code.split("\n")) {
+            boolean field = line.matches("^(    |        )(private )?(final )?\\w+(\\[\\])? \\w+ = .*;$");
+            boolean constructor = line.matches("^            this\\.\\w+ = new int\\[this\\.most\\];$");
+            Check.due("it is made with the object: " + line, !line.contains("new ") || field || constructor, true);
         }
     }
 }

@@ -182,6 +182,11 @@ public final class TermEdgeTest {
         due("9 WOKEN by all that were left", y.state(0, 0, 6, 3), 72);
         due("9 none DREAMT in the next night", y.state(0, 0, 6, 8), 0);
         due("9 two DREAMT in all", y.state(0, 0, 6, 5), 2);
+        LullabyHouse awake = night(FLOORS + "bar 9 1 0 0;bar 9 1 3 0;singer 1 8 9;", "skip;sing 0;night;");
+        due("9 all AWAKE", awake.state(0, 0, 2, 2), 63);
+        due("9 a FLOOR that is AWAKE DREAMS, too", awake.state(0, 0, 2, 8), 8);
+        due("9 and counts", awake.state(0, 0, 3, 5), 1);
+        due("29 and is FIRST", awake.after(0, 0, 0), 1);
     }
 
     // As much as may be: 40 nights of 54 PEOPLE, or of RENTS of 120
@@ -374,6 +379,10 @@ public final class TermEdgeTest {
             due("22 EASE, BREATH " + breath, x.ease(0, NONE), breath >= 3 ? 4 : NONE);
             due("22 EASE, who, BREATH " + breath, x.ease(0, 2), breath >= 3 ? 1 : NONE);
         }
+        LullabyHouse ends = Teller.with(FLOOR + bars("5") + "singer 5 5 1;" + "singer 1 1 1;".repeat(3) + "singer 5 5 1;");
+        due("21 SPARE, the first or the last will do", ends.spare(0, 0), 31);
+        LullabyHouse fifth = Teller.with(FLOOR + bars("5") + "singer 1 1 1;".repeat(4) + "singer 5 5 1;");
+        due("21 SPARE, all but the last", fifth.spare(0, 0), 15);
         LullabyHouse last = Teller.with(FLOOR + bars("102") + "singer 1 1 9;singer 2 2 9;singer 1 2 9;");
         due("11 the fewest, not the first", last.few(0, false), 1);
         due("11 the fewest, not the first, who", last.few(0, true), 4);
